@@ -186,8 +186,8 @@ public final class ShortMill {
 
     /**
      * Functions as steps of a stack machine: a read that waits inside a value can then go on
-     * later with nothing but the place of the next step and the stack. No token makes more than
-     * one step of its own, so TEXT_LIMIT steps hold every text.
+     * later with nothing but the place of the next step and the stack. Every piece of a text
+     * has at least as many tokens as steps, so TEXT_LIMIT steps hold every text.
      */
     private static final class Program {
         // The steps of + - * / % < == ! are the tokens themselves; the others lie above them.
@@ -218,10 +218,6 @@ public final class ShortMill {
         private final int[] signs = new int[FUNCTIONS];
         private int length = 0;
         private int functions = 0;
-
-        int length() {
-            return length;
-        }
 
         int functions() {
             return functions;
@@ -523,7 +519,7 @@ public final class ShortMill {
             expect(CLOSE_PLACE);
         }
 
-        /** In how many other values its arguments are is said by others. */
+        /** The arguments, not the call, are in as many other values as others says. */
         private void readCall(int others) {
             int name = place;
             int f = now() - FIRST_FUNCTION;

@@ -41,7 +41,7 @@ final class OracleTest {
         }
         boolean backwards = chance(30);
         for (int k = 0; k < known; k++) {
-            int f = backwards ? known - 1 - k : k;
+            int f = careless && chance(5) ? random.nextInt(6) : backwards ? known - 1 - k : k;
             add("fn f" + f + " " + parameters[f]);
             block(0, random.nextInt(4));
         }

@@ -141,6 +141,85 @@ final class RunTest {
         }
     }
 
+    private void everyRunningIsNew() {
+        ShortMill first = Check.started("fn f2 0 { g1 = 2 ; } fn f1 1 { print l0 ; } fn f0 0 { f1 ( 6 ) ; f2 ( ) ; }");
+        check.due("f0 is the last function", first.run(200), ENDED);
+        check.due("it called f1", first.shown(0), 6);
+        check.due("it called f2", first.global(1), 2);
+        ShortMill stale = Check.started("fn f0 0 { f1 ( 1 , 2 , 3 ) ; f2 ( ) ; } fn f1 3 { l7 = 4 ; } fn f2 0 { print l0 ; print l1 ; print l2 ; print l7 ; }");
+        check.due("locals of what ran before", stale.run(200), ENDED);
+        for (int i = 0; i < 4; i++) {
+            check.due("are gone", stale.shown(i), 0);
+        }
+        ShortMill pending = Check.started("fn f0 0 { print 7 - f1 ( ) ; print 7 - f2 ( 1 , 2 , 3 ) - 1 ; } fn f1 0 { } fn f2 3 { return l0 * 100 + l1 * 10 + l2 - 120 ; }");
+        check.due("calls inside values", pending.run(200), ENDED);
+        check.due("f1 is 0", pending.shown(1), 7);
+        check.due("f2 has its arguments in order", pending.shown(0), 3);
+        ShortMill jumps = Check.started("fn f0 0 { print 7 - f1 ( ) ; } fn f1 0 { while ( l0 < 2 ) { l0 = l0 + 1 ; } if ( 1 ) { } else { } return 1 ; }");
+        check.due("loops and choices inside values", jumps.run(200), ENDED);
+        check.due("leave them alone", jumps.shown(0), 6);
+        ShortMill often = Check.started("fn f0 0 { while ( g0 < 99 * 99 ) { f1 ( 1 ) ; f2 ( ) ; } } fn f1 1 { g0 = g0 + l0 ; return g0 ; } fn f2 0 { }");
+        for (int k = 0; k < 10; k++) {
+            often.run(200);
+        }
+        check.due("values of calls are thrown away", often.global(0), 400);
+        check.due("about(3)", often.about(3), 2000);
+    }
+
+    private void clearsAll() {
+        StringBuilder source = new StringBuilder("fn f0 0 { while ( l0 < 8 ) {");
+        for (int a = 0; a < 4; a++) {
+            source.append(" a" + a + " [ l0 ] = 9 ;");
+        }
+        source.append(" l0 = l0 + 1 ; }");
+        for (int g = 0; g < 8; g++) {
+            source.append(" g" + g + " = 9 ;");
+        }
+        ShortMill mill = Check.started(source + " }");
+        check.due("all set", mill.run(200), ENDED);
+        mill.start();
+        for (int k = 0; k < 8; k++) {
+            check.due("global " + k, mill.global(k), 0);
+            for (int a = 0; a < 4; a++) {
+                check.due("array " + a + " " + k, mill.array(a, k), 0);
+            }
+        }
+    }
+
+    private void endsStay() {
+        String[] ends = {"return 1 ;", "print 1 / 0 ;", "print a0 [ 8 ] ;", "f0 ( ) ;"};
+        for (int k = 0; k < ends.length; k++) {
+            ShortMill mill = Check.started("fn f0 0 { " + ends[k] + " print read ; }");
+            check.due(ends[k], mill.run(200), ENDED + k);
+            mill.key(1);
+            int begun = mill.about(3);
+            check.due(ends[k] + " with a key", mill.run(200), ENDED + k);
+            check.due(ends[k] + " key", mill.about(5), 1);
+            check.due(ends[k] + " begun", mill.about(3), begun);
+            check.due(ends[k] + " shown", mill.about(4), 0);
+        }
+    }
+
+    /** The densest texts there are, so that rows inside the class are filled as far as may be. */
+    private void densest() {
+        ShortMill prints = Check.started("fn f0 0 {" + " print 1 ;".repeat(51) + " }");
+        check.due("51 statements", prints.run(51), ENDED);
+        check.due("51 numbers", prints.about(4), 51);
+        String inner = "1 + 2 * f2 ( 3 , 4 , ";
+        ShortMill deep = Check.started("fn f0 0 { print f1 ( ) ; } fn f2 3 { return l0 * 5 - l1 + l2 ; } "
+            + "fn f1 0 { g0 = g0 + 1 ; if ( g0 == 9 ) { return 5 ; } "
+            + "a0 [ 1 ] = " + inner.repeat(3) + "1 + 2 * f1 ( ) ) ) ) ; return a0 [ 1 ] ; }");
+        check.due("10 functions with open values", deep.run(200), ENDED);
+        int want = 5;
+        for (int f = 0; f < 8; f++) {
+            want = 1 + 2 * want;
+            for (int k = 0; k < 3; k++) {
+                want = (short) (1 + 2 * (3 * 5 - 4 + want));
+            }
+        }
+        check.due("the value of all", deep.shown(0), want);
+    }
+
     private void waits() {
         ShortMill mill = Check.started("fn f0 0 { g0 = 1 ; g1 = g0 + read * f1 ( read ) ; g2 = 1 ; g3 = 1 ; } fn f1 1 { g0 = 50 ; return l0 + read ; }");
         check.due("waits", mill.run(2), WAITING);
@@ -231,6 +310,10 @@ final class RunTest {
         test.emptyMain();
         test.calls();
         test.endsOfFunctions();
+        test.everyRunningIsNew();
+        test.clearsAll();
+        test.endsStay();
+        test.densest();
         test.waits();
         test.divided();
         test.outside();
