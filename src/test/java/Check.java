@@ -1,13 +1,23 @@
 import java.util.List;
 
 /** What the tests share: texts written as words, and answers held against what is due. */
-final class Check {
+class Check {
     private static final List<String> WORDS = List.of(
         "if", "else", "while", "return", "print", "read", "(", ")", "{", "}", ";", ",",
         "=", "+", "-", "*", "/", "%", "<", "==", "!", "[", "]", "fn");
 
     private int wrong = 0;
     private int looked = 0;
+    private String label = "";
+
+    /** Stands before every wrong answer that is told from now on. */
+    final void under(String label) {
+        this.label = label;
+    }
+
+    final int looked() {
+        return looked;
+    }
 
     /** A text such as "fn f0 0 { print 1 ; }"; #n is the token n itself. */
     static int[] tokens(String source) {
@@ -67,23 +77,23 @@ final class Check {
         return mill;
     }
 
-    void due(String what, long got, long want) {
+    final void due(String what, long got, long want) {
         looked++;
         if (got != want) {
             wrong++;
-            System.out.println(what + " answered " + got + ", due is " + want);
+            System.out.println(label + what + " answered " + got + ", due is " + want);
         }
     }
 
-    void dueError(String source, int error, int place) {
+    final void dueError(String source, int error, int place) {
         due("compile of " + source, compiled(new ShortMill(), source), -1000L * error - place);
     }
 
-    void dueFunctions(String source, int functions) {
+    final void dueFunctions(String source, int functions) {
         due("compile of " + source, compiled(new ShortMill(), source), functions);
     }
 
-    void dueThrow(String what, Class<? extends RuntimeException> want, Runnable call) {
+    final void dueThrow(String what, Class<? extends RuntimeException> want, Runnable call) {
         looked++;
         Class<?> got = null;
         try {
@@ -93,11 +103,11 @@ final class Check {
         }
         if (got != want) {
             wrong++;
-            System.out.println(what + " threw " + got + ", due is " + want);
+            System.out.println(label + what + " threw " + got + ", due is " + want);
         }
     }
 
-    void end() {
+    final void end() {
         System.out.println(wrong == 0
             ? "all " + looked + " answers are as due"
             : wrong + " of " + looked + " answers are not as due");
