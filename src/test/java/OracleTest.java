@@ -6,6 +6,11 @@ import java.util.Random;
 /** Made-up texts, right and wrong, run on the class and on the Oracle side by side. */
 final class OracleTest {
     private static final int TEXTS = 20000;
+    private static final int CALLS = 512;
+    // As many calls as each of these makes at the most.
+    private static final int TO_LOOK_AT_ALL = 80;
+    private static final int TO_COMPILE = 50;
+    private static final int TO_RUN = 120 + TO_LOOK_AT_ALL;
 
     private final Random random;
     private final Check check;
@@ -13,6 +18,10 @@ final class OracleTest {
     private int[] parameters = new int[6];
     private int known = 1;
     private boolean careless = false;
+    private ShortMill mill = new ShortMill();
+    private Oracle oracle = new Oracle();
+    private int left = CALLS;
+    private boolean close = false;
 
     private OracleTest(long seed, Check check) {
         this.random = new Random(seed);
@@ -175,12 +184,33 @@ final class OracleTest {
 
     // ---- comparing
 
-    private void same(String what, ShortMill mill, Oracle oracle) {
+    /**
+     * Nothing is promised of an object that has had its 512 calls: it is looked at closely, or it has several texts.
+     */
+    private void newObject() {
+        mill = new ShortMill();
+        oracle = new Oracle();
+        left = CALLS;
+        close = chance(50);
+    }
+
+    private void same(String what) {
+        sameCounts(what);
+        if (close && left >= TO_LOOK_AT_ALL) {
+            left -= TO_LOOK_AT_ALL;
+            sameAll(what);
+        }
+    }
+
+    private void sameCounts(String what) {
         int[] want = {oracle.state, 0, oracle.functions, oracle.begun, oracle.shown.size(), oracle.keysLeft(),
             runningOf(oracle)};
         for (int k = 0; k < want.length; k++) {
             check.due(what + " about(" + k + ")", mill.about(k), want[k]);
         }
+    }
+
+    private void sameAll(String what) {
         for (int g = 0; g < 8; g++) {
             check.due(what + " global " + g, mill.global(g), oracle.globals[g]);
             for (int a = 0; a < 4; a++) {
@@ -198,10 +228,10 @@ final class OracleTest {
         return oracle.state == 0 || oracle.state == 3 ? 0 : oracle.running;
     }
 
-    private void runBoth(String what, ShortMill mill, Oracle oracle) {
+    private void runBoth(String what) {
         oracle.start();
         check.due(what + " start", mill.start() ? 1 : 0, 1);
-        same(what + " started", mill, oracle);
+        same(what + " started");
         int turns = 3 + random.nextInt(8);
         for (int turn = 0; turn < turns; turn++) {
             if (chance(60) && mill.about(5) < 8) {
@@ -211,14 +241,19 @@ final class OracleTest {
             }
             int n = chance(60) ? 1 + random.nextInt(5) : 1 + random.nextInt(200);
             check.due(what + " run " + n, mill.run(n), oracle.run(n));
-            same(what + " turn " + turn, mill, oracle);
+            same(what + " turn " + turn);
         }
+        sameAll(what + " at last");
     }
 
     private int[] seen = new int[8];
     private int[] errors = new int[7];
 
-    private void oneText(ShortMill mill, Oracle oracle) {
+    private void oneText() {
+        if (left < TO_COMPILE + TO_RUN) {
+            newObject();
+        }
+        left -= TO_COMPILE + TO_RUN;
         int[] tokens = program();
         if (tokens.length > 160) {
             tokens = Arrays.copyOf(tokens, 160);
@@ -230,11 +265,12 @@ final class OracleTest {
         Check.feed(mill, tokens);
         int answer = oracle.compile(tokens);
         check.due(what + " compile", mill.compile(), answer);
-        same(what + " compiled", mill, oracle);
+        same(what + " compiled");
         if (answer > 0) {
-            runBoth(what, mill, oracle);
+            runBoth(what);
             seen[oracle.state]++;
         } else {
+            left += TO_RUN;
             errors[-answer / 1000]++;
         }
     }
@@ -244,14 +280,8 @@ final class OracleTest {
         long seed = args.length > 0 ? Long.parseLong(args[0]) : 1;
         int texts = args.length > 1 ? Integer.parseInt(args[1]) : TEXTS;
         OracleTest test = new OracleTest(seed, check);
-        ShortMill mill = new ShortMill();
-        Oracle oracle = new Oracle();
         for (int k = 0; k < texts; k++) {
-            if (k % 3 == 0) {
-                mill = new ShortMill();
-                oracle = new Oracle();
-            }
-            test.oneText(mill, oracle);
+            test.oneText();
         }
         System.out.println("states at the end: " + Arrays.toString(test.seen));
         System.out.println("errors: " + Arrays.toString(test.errors));

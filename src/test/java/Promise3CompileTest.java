@@ -96,10 +96,12 @@ final class Promise3CompileTest extends Sentences {
             }
         }
         ShortMill none = new ShortMill();
-        for (int k = 0; k < WRONG.length; k++) {
-            due(WRONG[k], compiled(none, WRONG[k]), ANSWERS[k]);
-            dueRefused("no program behind " + WRONG[k], STATE, none, none::start);
-        }
+        dueUnchanged("an object without a program", none, () -> {
+            for (int k = 0; k < WRONG.length; k++) {
+                due(WRONG[k], compiled(none, WRONG[k]), ANSWERS[k]);
+                dueThrow("no program behind " + WRONG[k], STATE, none::start);
+            }
+        });
     }
 
     /** The program of inState runs on where it was, and starts again. */

@@ -146,6 +146,26 @@ final class Promise3GrammarTest extends Sentences {
         return mill;
     }
 
+    /** Every token by its number: the words of the other tests' texts come from the tests' own list. */
+    @Sentence(promise = 3, says = "0 if   1 else   2 while   3 return   4 print   5 read   6 (   7 )   8 {   9 }   "
+        + "10 ;   11 ,   12 =   13 +   14 -   15 *   16 /   17 %   18 <   19 ==   20 !   21 [   22 ]   23 fn")
+    void byNumber() {
+        // if ( 1 < 2 ) { g0 = 7 ; } else { g0 = 8 ; }
+        String choice = " #0 #6 #65 #18 #66 #7 #8 #32 #12 #71 #10 #9 #1 #8 #32 #12 #72 #10 #9";
+        // while ( g1 == 0 ) { g1 = f1 ( 3 , 9 ) ; }
+        String loop = " #2 #6 #33 #19 #64 #7 #8 #33 #12 #53 #6 #67 #11 #73 #7 #10 #9";
+        // print - read + 100 ; print 9 * 7 / 4 % 8 ; a0 [ 1 ] = ! 0 ;
+        String rest = " #4 #14 #5 #13 #164 #10 #4 #73 #15 #71 #16 #68 #17 #72 #10 #40 #21 #65 #22 #12 #20 #64 #10";
+        // fn f0 0 { .. } fn f1 2 { return l0 - l1 ; }
+        ShortMill mill = started("#23 #52 #64 #8" + choice + loop + rest + " #9 #23 #53 #66 #8 #3 #44 #14 #45 #10 #9");
+        mill.key(30);
+        due("run", mill.run(200), ENDED);
+        dueShown("- read + 100 and 9 * 7 / 4 % 8", mill, 70, 7);
+        due("if and <", mill.global(0), 7);
+        due("while, == and f1", mill.global(1), -6);
+        due("!", mill.array(0, 1), 1);
+    }
+
     @Sentence(promise = 3, says = "32 .. 39 GLOBALS g0 .. g7")
     void globals() {
         for (int g = 0; g < 8; g++) {
@@ -236,6 +256,24 @@ final class Promise3GrammarTest extends Sentences {
         dueFunctions("fn f0 0 { print - ( - 1 ) ; print ! ( ! 1 ) ; print 1 - - 1 ; print ( 1 < 2 ) < 3 ; }", 1);
     }
 
+    @Sentence(promise = 3, says = "text: { fn FUNCTION NUMBER block }")
+    void wholeTexts() {
+        dueFunctions("fn f3 0 { f5 ( ) ; } fn f0 0 { f3 ( ) ; } fn f5 0 { f0 ( ) ; }", 3);
+        dueError("f0 0 { }", 1, 0);
+        dueError("print 1 ;", 1, 0);
+        dueError("fn 0 { }", 1, 1);
+        dueError("fn fn f0 0 { }", 1, 1);
+        dueError("fn f0 { }", 1, 2);
+        dueError("fn f0 ( ) { }", 1, 2);
+        dueError("fn f0 0", 1, 3);
+        dueError("fn f0 0 fn f1 0 { }", 1, 3);
+        dueError("fn f0 0 { } ;", 1, 5);
+        dueError("fn f0 0 { } print 1 ;", 1, 5);
+        dueError("fn f0 0 { } { }", 1, 5);
+        dueError("fn f0 0 { } f1 0 { }", 1, 5);
+        dueError("fn f0 0 { } fn f1 0 { } else { }", 1, 10);
+    }
+
     @Sentence(promise = 3, says = "the number 0 .. 3 being how many PARAMETERS it has")
     void parameters() {
         String[] arguments = {"", "1", "1 , 2", "1 , 2 , 3", "1 , 2 , 3 , 4"};
@@ -300,9 +338,25 @@ final class Promise3GrammarTest extends Sentences {
         dueError("fn f0 0 { if 1 { } }", 1, 5);
         dueError("fn f0 0 { if ( ) { } }", 1, 6);
         dueError("fn f0 0 { while ( 1 ) { } else { } }", 1, 10);
-        dueError("fn f0 0 { return ; }", 1, 5);
-        dueError("fn f0 0 { print ; }", 1, 5);
-        dueError("fn f0 0 { print 1 , 2 ; }", 1, 6);
+    }
+
+    @Sentence(promise = 3, says = "return value ;   or   print value ;")
+    void returnsAndPrints() {
+        for (String word : new String[] {"return", "print"}) {
+            dueFunctions("fn f0 0 { " + word + " 1 ; }", 1);
+            dueFunctions("fn f0 0 { " + word + " f0 ( ) + - read < a3 [ g7 ] ; }", 1);
+            dueFunctions("fn f0 0 { if ( 0 ) { " + word + " 1 ; } else { " + word + " 2 ; } " + word + " 3 ; }", 1);
+            dueError("fn f0 0 { " + word + " ; }", 1, 5);
+            dueError("fn f0 0 { " + word + " = 1 ; }", 1, 5);
+            dueError("fn f0 0 { " + word + " 1 }", 1, 6);
+            dueError("fn f0 0 { " + word + " 1 , 2 ; }", 1, 6);
+            dueError("fn f0 0 { " + word + " g0 = 1 ; }", 1, 6);
+            dueError("fn f0 0 { " + word + " 1 ; ; }", 1, 7);
+            dueError("fn f0 0 { g0 = " + word + " 1 ; }", 1, 6);
+        }
+        ShortMill both = started("fn f0 0 { print 1 ; print f1 ( ) ; return 3 ; print 4 ; } fn f1 0 { print 5 ; return 6 ; }");
+        due("run", both.run(200), ENDED);
+        dueShown("run", both, 1, 5, 6);
     }
 
     @Sentence(promise = 3, says = "variable: GLOBAL or LOCAL or ARRAY [ value ]")
@@ -350,7 +404,7 @@ final class Promise3GrammarTest extends Sentences {
         dueError("fn f0 0 { print read ( ) ; }", 1, 6);
     }
 
-    @Sentence(promise = 3, says = "that of a token (from 0; the text's length at its end)")
+    @Sentence(promise = 3, says = "ERRORS have a place, that of a token (from 0; the text's length at its end)")
     void everyBeginning() {
         String first = "fn f0 0 { g0 = - 1 ; if ( read ) { l0 = f1 ( 1 , 2 ) ; } else { a0 [ 1 + 2 ] = ! l1 ; } } ";
         int[] whole = tokens(first + "fn f1 2 { while ( a1 [ g1 ] < ( 3 == l0 ) ) { "

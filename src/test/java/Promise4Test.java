@@ -73,7 +73,7 @@ final class Promise4Test extends Sentences {
         due("40 shown", mill.about(4), 40);
         mill.start();
         for (int i : new int[] {0, 1, 31, 32}) {
-            dueRefused("shown(" + i + ") behind start", INDEX, mill, () -> mill.shown(i));
+            dueThrow("shown(" + i + ") behind start", INDEX, () -> mill.shown(i));
         }
         due("none shown", mill.about(4), 0);
         mill.run(3);
@@ -101,14 +101,14 @@ final class Promise4Test extends Sentences {
     @Sentence(promise = 4, says = "IllegalStateException: there is no program.")
     void noProgram() {
         ShortMill mill = new ShortMill();
-        dueRefused("new", STATE, mill, mill::start);
+        dueThrow("new", STATE, mill::start);
         feed(mill, tokens("fn f0 0 { }"));
         dueRefused("a text that was not compiled", STATE, mill, mill::start);
         mill.words(0, 1);
         due("a wrong text", mill.compile(), -1005);
         dueRefused("behind a wrong text", STATE, mill, mill::start);
         due("compile of nothing", mill.compile(), -6000);
-        dueRefused("behind no text", STATE, mill, mill::start);
+        dueThrow("behind no text", STATE, mill::start);
         due("a right text", compiled(mill, "fn f0 0 { }"), 1);
         due("start", mill.start() ? 1 : 0, 1);
         due("a wrong text again", compiled(mill, "fn"), -1001);

@@ -34,9 +34,11 @@ final class Promise5Test extends Sentences {
     @Sentence(promise = 5, says = "IllegalArgumentException: v is not -32768 .. 32767.")
     void wrongKey() {
         ShortMill mill = new ShortMill();
-        for (int v : new int[] {32768, -32769, 65535, 65536, -65536, Integer.MIN_VALUE, Integer.MAX_VALUE}) {
-            dueRefused("key(" + v + ")", ARGUMENT, mill, () -> mill.key(v));
-        }
+        dueUnchanged("a wrong key", mill, () -> {
+            for (int v : new int[] {32768, -32769, 65535, 65536, -65536, Integer.MIN_VALUE, Integer.MAX_VALUE}) {
+                dueThrow("key(" + v + ")", ARGUMENT, () -> mill.key(v));
+            }
+        });
         int[] right = {32767, -32768, 32766, -32767, 0, 1, -1};
         for (int k = 0; k < right.length; k++) {
             due("key(" + right[k] + ")", mill.key(right[k]), k + 1);

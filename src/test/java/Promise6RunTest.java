@@ -21,6 +21,7 @@ final class Promise6RunTest extends Sentences {
         ShortMill whole = started(source);
         due("at once", whole.run(200), ENDED);
         int all = whole.about(3);
+        int[] end = picture(whole);
         for (int n = 1; n <= all; n++) {
             ShortMill mill = started(source);
             for (int begun = 0; begun + n < all; begun += n) {
@@ -28,7 +29,7 @@ final class Promise6RunTest extends Sentences {
                 due("begun", mill.about(3), begun + n);
             }
             due("the last run(" + n + ")", mill.run(n), ENDED);
-            dueSame("in runs of " + n, picture(mill), picture(whole));
+            dueSame("in runs of " + n, picture(mill), end);
         }
     }
 
@@ -135,9 +136,11 @@ final class Promise6RunTest extends Sentences {
     void wrongCount() {
         for (int state = READY; state <= DEEP; state++) {
             ShortMill mill = inState(state);
-            for (int n : new int[] {0, 201, -1, -200, 256, Integer.MIN_VALUE, Integer.MAX_VALUE}) {
-                dueRefused("run(" + n + ") in state " + state, ARGUMENT, mill, () -> mill.run(n));
-            }
+            dueUnchanged("a wrong n in state " + state, mill, () -> {
+                for (int n : new int[] {0, 201, -1, -200, 256, Integer.MIN_VALUE, Integer.MAX_VALUE}) {
+                    dueThrow("run(" + n + ")", ARGUMENT, () -> mill.run(n));
+                }
+            });
         }
         ShortMill mill = started("fn f0 0 { while ( 1 ) { } }");
         due("run(1)", mill.run(1), READY);

@@ -46,9 +46,12 @@ final class Promise7Test extends Sentences {
     void thereIsNone() {
         for (int count : new int[] {0, 1, 2, 31, 32, 33, 64}) {
             ShortMill mill = showing(count);
-            for (int i : new int[] {-1, -32, Math.min(count, 32), 32, 33, 64, Integer.MIN_VALUE, Integer.MAX_VALUE}) {
-                dueRefused("shown(" + i + ") of " + count, INDEX, mill, () -> mill.shown(i));
-            }
+            int[] wrong = {-1, -32, Math.min(count, 32), 32, 33, 64, Integer.MIN_VALUE, Integer.MAX_VALUE};
+            dueUnchanged("shown of " + count, mill, () -> {
+                for (int i : wrong) {
+                    dueThrow("shown(" + i + ") of " + count, INDEX, () -> mill.shown(i));
+                }
+            });
         }
         ShortMill mill = new ShortMill();
         dueRefused("new", INDEX, mill, () -> mill.shown(0));

@@ -25,9 +25,11 @@ final class Promise8Test extends Sentences {
     void wrongGlobal() {
         for (int state = NOTHING; state <= DEEP; state++) {
             ShortMill mill = inState(state);
-            for (int g : new int[] {-1, 8, 32, -8, Integer.MIN_VALUE, Integer.MAX_VALUE}) {
-                dueRefused("global(" + g + ") in state " + state, INDEX, mill, () -> mill.global(g));
-            }
+            dueUnchanged("a wrong global in state " + state, mill, () -> {
+                for (int g : new int[] {-1, 8, 32, -8, Integer.MIN_VALUE, Integer.MAX_VALUE}) {
+                    dueThrow("global(" + g + ")", INDEX, () -> mill.global(g));
+                }
+            });
             due("global(0) in state " + state, mill.global(0), 0);
             due("global(1) in state " + state, mill.global(1), state == NOTHING ? 0 : 5);
             due("global(7) in state " + state, mill.global(7), 0);

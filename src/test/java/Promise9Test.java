@@ -23,34 +23,30 @@ final class Promise9Test extends Sentences {
 
     @Sentence(promise = 9, says = "IndexOutOfBoundsException: a is not 0 .. 3, or i not 0 .. 7.")
     void wrongPlace() {
-        int[] wrongArrays = {-1, 4, 40, Integer.MIN_VALUE, Integer.MAX_VALUE};
-        int[] wrongPlaces = {-1, 8, -8, 16, Integer.MIN_VALUE, Integer.MAX_VALUE};
         for (int state = NOTHING; state <= DEEP; state++) {
             ShortMill mill = inState(state);
-            for (int a : wrongArrays) {
-                for (int i : new int[] {0, 7}) {
-                    dueRefused("array(" + a + ", " + i + ")", INDEX, mill, () -> mill.array(a, i));
-                }
-                for (int i : wrongPlaces) {
-                    dueRefused("array(" + a + ", " + i + ")", INDEX, mill, () -> mill.array(a, i));
-                }
-            }
+            dueUnchanged("a wrong place in state " + state, mill, () -> dueAllRefused(mill));
             for (int a = 0; a < 4; a++) {
-                int right = a;
-                for (int i : wrongPlaces) {
-                    dueRefused("array(" + a + ", " + i + ")", INDEX, mill, () -> mill.array(right, i));
-                }
                 due("array(" + a + ", 0)", mill.array(a, 0), 0);
                 due("array(" + a + ", 7)", mill.array(a, 7), 0);
             }
             due("array(1, 2) in state " + state, mill.array(1, 2), state == NOTHING ? 0 : 6);
         }
         ShortMill mill = new ShortMill();
-        dueRefused("array(4, 0) of a new one", INDEX, mill, () -> mill.array(4, 0));
-        dueRefused("array(0, 8) of a new one", INDEX, mill, () -> mill.array(0, 8));
-        // Places that a row of all 32 would have.
-        dueRefused("array(1, -1)", INDEX, mill, () -> mill.array(1, -1));
-        dueRefused("array(-1, 8)", INDEX, mill, () -> mill.array(-1, 8));
+        dueUnchanged("a wrong place of a new one", mill, () -> dueAllRefused(mill));
+    }
+
+    /** Every pair with a wrong one in it; a row of all 32 places would have some of them. */
+    private void dueAllRefused(ShortMill mill) {
+        int[] arrays = {-1, 4, 40, Integer.MIN_VALUE, Integer.MAX_VALUE, 0, 1, 2, 3};
+        int[] places = {-1, 8, -8, 16, Integer.MIN_VALUE, Integer.MAX_VALUE, 0, 7};
+        for (int a : arrays) {
+            for (int i : places) {
+                if (a < 0 || a > 3 || i < 0 || i > 7) {
+                    dueThrow("array(" + a + ", " + i + ")", INDEX, () -> mill.array(a, i));
+                }
+            }
+        }
     }
 
     public static void main(String[] args) {

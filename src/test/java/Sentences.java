@@ -127,9 +127,17 @@ abstract class Sentences extends Check {
 
     /** A refused call: the exception, and that nothing has changed by it. */
     final void dueRefused(String what, Class<? extends RuntimeException> want, ShortMill mill, Runnable call) {
+        dueUnchanged(what, mill, () -> dueThrow(what, want, call));
+    }
+
+    /**
+     * That nothing has changed by the calls. Two pictures are 158 calls, and an object has 512 that
+     * something is promised of: many refused calls of one object stand between the same two.
+     */
+    final void dueUnchanged(String what, ShortMill mill, Runnable calls) {
         int length = mill.about(1);
         int[] before = picture(mill);
-        dueThrow(what, want, call);
+        calls.run();
         due(what + ": how long the text is", mill.about(1), length);
         dueSame(what + ": changed", picture(mill), before);
     }
